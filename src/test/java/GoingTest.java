@@ -161,6 +161,15 @@ public final class GoingTest {
         x.mud(5, 6, 1);
         x.mud(6, 7, 1);
         Check.due("12: ten ways", x.soonest(0, 7, 0), 35);
+        RolledUp z = new RolledUp();
+        Check.due("12: text", Check.read(z, "wants 99*(wet<9)*(from+to=2)*(from*to=0); takes 0; lends 0;"), 1);
+        z.force(1);
+        z.one(3, 990, 0);
+        int[][] ways = {{0, 1}, {0, 2}, {2, 3}, {3, 4}, {4, 5}, {5, 6}, {6, 7}};
+        for (int[] way : ways) {
+            z.mud(way[0], way[1], 1);
+        }
+        Check.due("12: ten ways to and fro till WET is 9, then six, 2 hours each", z.soonest(0, 7, 0), 32);
         RolledUp y = new RolledUp();
         y.one(5, 100, 0);
         y.set(6, 0, 1);

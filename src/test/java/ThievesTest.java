@@ -49,9 +49,9 @@ public final class ThievesTest {
         Check.due("17: by the last of some stones", y.shaken(0, 1), 2);
         y.mud(5, 3, 0);
         y.mud(0, 3, 12);
-        y.set(0, 0, 4);
-        y.set(0, 1, 4);
-        Check.due("17: not from a stone where they aren't", y.shaken(0, 1), 2);
+        y.set(0, 0, 2);
+        y.set(0, 1, 2);
+        Check.due("17: not from a stone where they aren't", y.shaken(0, 1), 3);
         int[][] bad = {{0, 0}, {2, 0}, {0, 2}, {-1, 0}, {0, -1}};
         for (int[] b : bad) {
             Check.due("17: BAD", x.shaken(b[0], b[1]), -2);
