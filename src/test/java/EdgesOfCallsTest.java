@@ -11,12 +11,15 @@ public final class EdgesOfCallsTest {
         longestRows();
         lendingAtMost();
         ringsOfAll();
+        togetherFromEachStone();
         shakenFromOneToEight();
+        shakenFromEachStone();
         printsOfFortyStones();
         outInTheLastHour();
         eachPairIsTheRoad();
         judgedTwentyRows();
         drawnNothing();
+        drawnByAnInt();
         chanceInLowestTerms();
         imagesOfNobodyAndOfFive();
         countsAtMost();
@@ -167,6 +170,30 @@ public final class EdgesOfCallsTest {
         Check.due("13: 49 and 49", x.together(0, 1, 4), -1);
     }
 
+    /** 13: from each STONE to each: 0 ways, 1 way, or NONE, if there is no MUD. */
+    private static void togetherFromEachStone() {
+        for (int from = 0; from < 8; from++) {
+            for (int to = 0; to < 8; to++) {
+                RolledUp x = new RolledUp();
+                x.one(0, 40, 0);
+                x.one(0, 50, 0);
+                x.set(0, 0, from);
+                x.set(0, 1, from);
+                Check.due("13: no MUD", x.together(0, 1, to), from == to ? 0 : -1);
+                x.mud(from, to, 10);
+                Check.due("13: 10 yards, 4 and 5", x.together(0, 1, to), from == to ? 0 : -1);
+                x.mud(from, to, 9);
+                Check.due("13: 9 yards, 4 and 5", x.together(0, 1, to), from == to ? 0 : 1);
+                Check.due("13: 9 yards, 5 and 4", x.together(1, 0, to), from == to ? 0 : 1);
+                for (int other = 0; other < 8; other++) {
+                    if (other != from && other != to) {
+                        Check.due("13: no MUD to another one", x.together(0, 1, other), -1);
+                    }
+                }
+            }
+        }
+    }
+
     /** 14: "LENDING of yards (1 .. 99): what it costs." */
     private static void lendingAtMost() {
         RolledUp x = with(2);
@@ -227,6 +254,32 @@ public final class EdgesOfCallsTest {
         }
         x.mud(0, 1, 21);
         Check.due("17: the one can't, either", x.shaken(0, 1), -1);
+    }
+
+    /** 17: by a first way that both can go from each STONE to each other one, and a second that the thief can't. */
+    private static void shakenFromEachStone() {
+        for (int from = 0; from < 8; from++) {
+            for (int to = 0; to < 8; to++) {
+                int third = (from + 1) % 8 == to ? (from + 2) % 8 : (from + 1) % 8;
+                if (from == to) {
+                    continue;
+                }
+                RolledUp x = new RolledUp();
+                x.one(0, 60, 0);
+                x.one(0, 50, 0);
+                x.set(0, 0, from);
+                x.set(0, 1, from);
+                x.mud(from, to, 5);
+                Check.due("17: both can", x.shaken(0, 1), -1);
+                x.mud(to, third, 7);
+                Check.due("17: neither can", x.shaken(0, 1), -1);
+                x.mud(to, third, 6);
+                Check.due("17: the second way", x.shaken(0, 1), 2);
+                Check.due("17: one can't where the thief can", x.shaken(1, 0), -1);
+                x.mud(from, to, 6);
+                Check.due("17: the first way", x.shaken(0, 1), 1);
+            }
+        }
     }
 
     /** 18: two STONES, and a full SHEET of 40; nobody, and all five. */
@@ -315,9 +368,19 @@ public final class EdgesOfCallsTest {
             x.set(0, one, 6);
         }
         x.mud(6, 7, 99);
+        x.set(6, 0, 4);
         Check.due("20: all five", x.road(7, 1), 5);
         Check.due("20: the last pair", x.road(7, 0), 67);
-        Check.due("20: 5 hours", x.road(7, 2), 5);
+        Check.due("20: 5 hours, as all set out dry", x.road(7, 2), 5);
+        x.set(2, 4, 9);
+        Check.due("20: 9 more of one who is WET", x.road(7, 2), 14);
+        x.mud(6, 7, 0);
+        x.mud(6, 5, 2);
+        x.mud(5, 7, 2);
+        x.set(1, 0, 1);
+        Check.due("20: 0 can go by a road alone", x.road(7, 0), 67);
+        x.mud(6, 5, 1);
+        Check.due("20: fewest hours: by the road at once", x.road(7, 2), 14);
     }
 
     /** 21: "the first row (from 0) that isn't such, or that one CAN'T by then; NONE": 0 .. 20 rows. */
@@ -355,6 +418,26 @@ public final class EdgesOfCallsTest {
         y.mud(0, 1, 1);
         Check.due("22: one round", y.drawn(seed, 1, 1), 1);
         Check.due("22: no round", y.drawn(seed, 0, 1), 0);
+    }
+
+    /** 22: "z = z * 1103515245 + 12345 (an int; SEED at first)", "STONE (z >>> 9) % 8": all MUD is 1, so one is there. */
+    private static void drawnByAnInt() {
+        int[] seeds = {0, 1, -1, 7, 255, 256, 65535, 65536, 1 << 30, -(1 << 30), Integer.MAX_VALUE, Integer.MAX_VALUE - 1, Integer.MIN_VALUE, Integer.MIN_VALUE + 1};
+        for (int seed : seeds) {
+            RolledUp x = with(1);
+            for (int a = 0; a < 8; a++) {
+                for (int b = 0; b < a; b++) {
+                    x.mud(a, b, 1);
+                }
+            }
+            long z = seed;
+            for (int n = 1; n <= 30; n++) {
+                z = (z * 1103515245L + 12345L) & 0xFFFFFFFFL;
+                int stone = (int) ((z / 512) % 8);
+                Check.due("22: seed " + seed + ", " + n + " rounds", x.drawn(seed, n, stone), 1);
+                Check.due("22: it is on one STONE alone", x.drawn(seed, n, (stone + 1) % 8), 0);
+            }
+        }
     }
 
     /** 23: "In how many of 1 .. 20 seeds, SEED and each 1 more (an int) ..: .. in lowest terms." */

@@ -273,6 +273,8 @@ public final class EdgesOfTermsTest {
             fault((char) b + "wants 1" + REST, blank ? -1 : 0);
             fault("wants 1" + REST + (char) b, blank ? -1 : ("wants 1" + REST).length());
             fault("wants " + (char) b + "1" + REST, blank || b == '-' || digit ? -1 : b == '(' ? 8 : 6);
+            boolean letter = b >= 'a' && b <= 'z';
+            fault("wants wet" + (char) b + "1" + REST, operator ? -1 : letter ? 6 : blank || b == ';' ? 10 : 9);
             fault("wants 1 " + (char) b, blank || operator || b == ';' ? 9 : 8);
         }
     }
