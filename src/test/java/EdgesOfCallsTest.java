@@ -4,6 +4,8 @@ public final class EdgesOfCallsTest {
         newObject();
         mudFromLeastToMost();
         whatOfOne();
+        eachOfFive();
+        eachTwoOfFive();
         owedByAllOthers();
         tapeFromEmptyToFull();
         faultsTakeNoRoom();
@@ -87,6 +89,72 @@ public final class EdgesOfCallsTest {
                 Check.due("4: NUMBER of " + row[0], x.told(0, 4), row[2]);
                 Check.due("4: LOAD", x.told(0, 3), kind + 4);
                 Check.due("4: KIND", x.told(0, 5), kind);
+            }
+        }
+    }
+
+    /** Each of five is on a STONE of its own, from which it can just go to STONE 0: 10 yards and its number. */
+    private static RolledUp fiveApart() {
+        RolledUp x = new RolledUp();
+        for (int one = 0; one < 5; one++) {
+            Check.due("4: " + one, x.one(0, 100 + 10 * one + one, one), one);
+            x.set(0, one, 7 - one);
+            x.mud(7 - one, 0, 10 + one);
+        }
+        return x;
+    }
+
+    /** 5, 6, 10, 11, 12, 19, 31: "one" is the one that is told, from the first to the last. */
+    private static void eachOfFive() {
+        for (int one = 0; one < 5; one++) {
+            RolledUp x = fiveApart();
+            Check.due("6: STONE", x.told(one, 0), 7 - one);
+            Check.due("6: YARDS", x.told(one, 1), 10 + one);
+            Check.due("6: REACHES", x.told(one, 6), 10 + one);
+            Check.due("31: NUMBER", x.taken(one, 0), one);
+            Check.due("10: just so", x.can(one, 0, 1), 10 + one);
+            Check.due("12: hours", x.soonest(one, 0, 0), 10 + one);
+            Check.due("12: the first STONE", x.soonest(one, 0, 1), 0);
+            Check.due("19: at once", x.out(one, 0, 0), 0);
+            Check.due("19: hours", x.out(one, 0, 1), 10 + one);
+            Check.due("5: a yard less", x.set(1, one, 9 + one), 10 + one);
+            Check.due("10: too far", x.can(one, 0, 0), 0);
+            Check.due("12: too far", x.soonest(one, 0, 0), -1);
+            Check.due("19: too far", x.out(one, 0, 0), -1);
+            Check.due("11: too far", x.go(one, 0), -3);
+            x.set(1, one, 10 + one);
+            Check.due("11: HOUR then", x.go(one, 0), 10 + one);
+            for (int other = 0; other < 5; other++) {
+                Check.due("11: that one has gone", x.told(other, 0), other == one ? 0 : 7 - other);
+            }
+        }
+    }
+
+    /** 13, 14, 17: each two of five, on a STONE that is not that of the others. */
+    private static void eachTwoOfFive() {
+        for (int one = 0; one < 5; one++) {
+            for (int other = 0; other < 5; other++) {
+                if (one == other) {
+                    continue;
+                }
+                RolledUp x = fiveApart();
+                Check.due("13: apart", x.together(one, other, 0), -3);
+                Check.due("17: apart", x.shaken(one, other), -3);
+                Check.due("14: apart", x.lend(one, other, 1), -3);
+                x.set(0, one, 2);
+                x.set(0, other, 2);
+                x.mud(2, 1, 20 + one + other);
+                Check.due("13: both reach so far", x.together(one, other, 1), 1);
+                Check.due("17: neither can", x.shaken(one, other), -1);
+                x.mud(2, 1, 21 + one + other);
+                Check.due("13: a yard too far", x.together(one, other, 1), -1);
+                x.mud(2, 1, 10 + one);
+                Check.due("17: the one can", x.shaken(one, other), other < one ? 1 : -1);
+                Check.due("14: a yard", x.lend(one, other, 1), 1);
+                Check.due("14: a yard less", x.told(one, 1), 9 + one);
+                Check.due("14: a yard more", x.told(other, 1), 11 + other);
+                Check.due("15: a yard owed", x.owed(other, one), 1);
+                Check.due("26: no yard more", x.count(7), 1);
             }
         }
     }
