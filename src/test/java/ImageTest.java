@@ -2,6 +2,8 @@
 public final class ImageTest {
     public static void main(String[] args) {
         keepsAll();
+        keptForMoreThanOnce();
+        imageAnew();
         peopleThatCameSinceGo();
         whatIsNotKept();
         counts();
@@ -80,23 +82,37 @@ public final class ImageTest {
     private static void keepsAll() {
         RolledUp x = scene();
         Check.due("25: STATE", x.back(), -3);
-        int[] before = all(x);
         Check.due("24: how many people", x.image(), 2);
-        alike("24: an image changes nothing", all(x), before);
+        alike("24: an image changes nothing", all(x), all(scene()));
         change(x);
-        int[] changed = all(x);
         Check.due("25: how many people", x.back(), 2);
-        alike("25: as in the image", all(x), before);
+        alike("25: as in the image", all(x), all(scene()));
+    }
+
+    private static void keptForMoreThanOnce() {
+        RolledUp changed = scene();
+        change(changed);
+        RolledUp x = scene();
+        x.image();
         change(x);
-        alike("25: changed alike", all(x), changed);
+        x.back();
+        change(x);
+        alike("25: changed alike", all(x), all(changed));
         Check.due("25: back once more", x.back(), 2);
-        alike("25: as in the image, once more", all(x), before);
+        alike("25: as in the image, once more", all(x), all(scene()));
+    }
+
+    private static void imageAnew() {
+        RolledUp changed = scene();
+        change(changed);
+        RolledUp x = scene();
+        x.image();
         change(x);
         Check.due("24: an image anew", x.image(), 2);
         x.mud(0, 1, 1);
         x.set(5, 0, 1);
         Check.due("25: to the new one", x.back(), 2);
-        alike("25: as in the new image", all(x), changed);
+        alike("25: as in the new image", all(x), all(changed));
         Check.due("25: the rule goes with it: takes wet", x.can(0, 3, 1), 9 + 6 + 5);
     }
 

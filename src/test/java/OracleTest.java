@@ -176,7 +176,7 @@ public final class OracleTest {
         int sort = near(3) - 1;
         int n = below(3) == 0 ? near(40) : 2 * below(4);
         due("sheet " + s + " " + sort + " " + n, x.sheet(s, sort, n), o.sheet(s, sort, n));
-        for (int i = 0; i < n && i < 12; i++) {
+        for (int i = 0; i < n && i < 12 && calls < CALLS; i++) {
             int at = rarely() && n <= 40 ? near(n) : i;
             int v = rarely() ? dice.nextInt() : i % 2 == 0 ? below(5) : below(8);
             if (below(200) == 0) {

@@ -296,10 +296,10 @@ public final class ThievesTest {
     }
 
     private static void chances() {
-        RolledUp x = meadow();
-        x.one(0, 10, 0);
         int[] starts = {0, 100, Integer.MAX_VALUE - 3};
         for (int start : starts) {
+            RolledUp x = meadow();
+            x.one(0, 10, 0);
             for (int to = 0; to < 8; to++) {
                 for (int seeds = 1; seeds <= 20; seeds++) {
                     int hits = 0;
@@ -313,6 +313,8 @@ public final class ThievesTest {
                 }
             }
         }
+        RolledUp x = meadow();
+        x.one(0, 10, 0);
         Check.due("23: always", x.chance(5, 20, 0, 0, 0), 1);
         Check.due("23: always", x.chance(5, 20, 0, 0, 1), 1);
         Check.due("23: never", x.chance(5, 20, 0, 1, 0), 0);
